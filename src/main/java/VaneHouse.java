@@ -190,7 +190,7 @@ public final class VaneHouse {
         }
         int passed = 0;
         for (int i = 0; i < hours; i++) {
-            town.blow(windAt(hour));
+            town.blowOnAll(windAt(hour));
             passed += voteAndRain(town, hour, true);
             hour++;
         }
@@ -248,9 +248,9 @@ public final class VaneHouse {
         if (hour + hours > LAST_HOUR) {
             throw new IllegalStateException("time ends before");
         }
-        ahead.copyFrom(town);
+        ahead.copyAllFrom(town);
         for (int i = 0; i < hours; i++) {
-            ahead.blow(windAt(hour + i));
+            ahead.blowOnAll(windAt(hour + i));
             voteAndRain(ahead, hour + i, false);
         }
         return ahead.directionOf(vane);
@@ -267,7 +267,7 @@ public final class VaneHouse {
         if (hour + hours > LAST_HOUR) {
             throw new IllegalStateException("time ends before");
         }
-        ahead.copyFrom(town);
+        ahead.copyAllFrom(town);
         int waiting = hoursUntilItPasses(motions.get(motion), hours);
         return waiting < hours ? hour + waiting : -1;
     }
@@ -283,11 +283,11 @@ public final class VaneHouse {
         if (hour + hours > LAST_HOUR) {
             throw new IllegalStateException("time ends before");
         }
-        ahead.copyFrom(town);
+        ahead.copyAllFrom(town);
         int shortest = hoursUntilItPasses(motions.get(motion), hours);
         int best = -1;
         for (int i = 0; i < ahead.vanes.size(); i++) {
-            ahead.copyFrom(town);
+            ahead.copyAllFrom(town);
             ahead.vanes.get(i).takeOil();
             int waiting = hoursUntilItPasses(motions.get(motion), shortest);
             if (waiting < shortest) {
@@ -390,7 +390,7 @@ public final class VaneHouse {
             }
             boolean carried = there.carries(entry.motion);
             if (carried) {
-                there.takeEffect(entry.motion);
+                there.giveEffect(entry.motion);
                 passed++;
             }
             if (recorded) {
@@ -398,7 +398,7 @@ public final class VaneHouse {
             }
         }
         if (windAt(when).rains) {
-            there.takeRain();
+            there.rainOnAll();
         }
         return passed;
     }
@@ -406,7 +406,7 @@ public final class VaneHouse {
     /** Looks ahead of the town as it is made ready there; answers as many hours as it may look if none is it. */
     private int hoursUntilItPasses(Motion motion, int hours) {
         for (int i = 0; i < hours; i++) {
-            ahead.blow(windAt(hour + i));
+            ahead.blowOnAll(windAt(hour + i));
             if (ahead.carries(motion)) {
                 return i;
             }
@@ -686,7 +686,7 @@ public final class VaneHouse {
     private static final class Town {
         private final ArrayList<Vane> vanes = new ArrayList<>();
 
-        void copyFrom(Town other) {
+        void copyAllFrom(Town other) {
             for (int i = 0; i < vanes.size() && i < other.vanes.size(); i++) {
                 vanes.get(i).copyFrom(other.vanes.get(i));
             }
@@ -714,19 +714,19 @@ public final class VaneHouse {
             return number >= 0 && number < vanes.size() ? vanes.get(number).direction : 0;
         }
 
-        void blow(Wind wind) {
+        void blowOnAll(Wind wind) {
             for (int i = 0; i < vanes.size(); i++) {
                 vanes.get(i).blow(wind);
             }
         }
 
-        void takeRain() {
+        void rainOnAll() {
             for (int i = 0; i < vanes.size(); i++) {
                 vanes.get(i).takeRain();
             }
         }
 
-        void takeEffect(Motion motion) {
+        void giveEffect(Motion motion) {
             for (int i = 0; i < vanes.size(); i++) {
                 vanes.get(i).takeEffect(motion.effect, motion.sideOf(vanes.get(i)));
             }

@@ -484,6 +484,15 @@ public final class VaneHouseTest {
         due("turning: bound no more", bound.vane(0, 8), 0);
         bound.pass(1);
         direct("turning: free again, -4 * 9 / 5", bound, 0, 1, -7);
+        VaneHouse spinning = windOf(8, 9, false);
+        spinning.setUp(0, 0, 1, 1, 1, 0);
+        spinning.setUp(5, 0, 1, 9, 2, 0);
+        spinning.move(0, 5, 0, 2);
+        spinning.put(0, 0);
+        spinning.pass(1);
+        direct("turning: bound behind step 1", spinning, 0, 8, 8);
+        spinning.pass(1);
+        direct("turning: a bound one loses its spin", spinning, 0, 8, 0);
     }
 
     // Terms: step 3 of an hour (promise 14)
@@ -669,6 +678,12 @@ public final class VaneHouseTest {
         x.pass(1);
         due("count: passed in all", x.count(6), 2);
         due("count: the wind is stronger now", x.count(8), 0);
+        VaneHouse y = oneBound();
+        due("count: bound for 4 hours", y.count(7), 1);
+        y.pass(3);
+        due("count: bound for one", y.count(7), 1);
+        y.pass(1);
+        due("count: bound no more", y.count(7), 0);
         refused("count(-1)", x, INDEX, () -> x.count(-1));
         refused("count(9)", x, INDEX, () -> x.count(9));
     }
@@ -726,6 +741,7 @@ public final class VaneHouseTest {
         VaneHouse z = windOf(0, 1, true);
         z.setUp(0, 0, 1, 1, 1, 2);
         due("foresee: it would rust", z.foresee(0, 100), 1);
+        foreseeFromWhatIs();
         refused("foresee(-1, 101)", x, INDEX, () -> x.foresee(-1, 101));
         refused("foresee(2, 0)", x, INDEX, () -> x.foresee(2, 0));
         refused("foresee(0, -1)", x, ARGUMENT, () -> x.foresee(0, -1));
@@ -737,6 +753,29 @@ public final class VaneHouseTest {
         refused("foresee: beyond 2000", z, STATE, () -> z.foresee(0, 1));
         refused("foresee: too many, beyond 2000", z, ARGUMENT, () -> z.foresee(0, 101));
         refused("foresee: no such vane, beyond 2000", z, INDEX, () -> z.foresee(1, 1));
+    }
+
+    private static void foreseeFromWhatIs() {
+        VaneHouse x = oneBound();
+        x.beginWind(4, 9, false);
+        due("foresee: it is bound", x.foresee(0, 4), 8);
+        due("foresee: then free again, -4 * 9 / 5", x.foresee(0, 5), 1);
+        VaneHouse y = windOf(0, 0, true);
+        y.setUp(0, 0, 1, 9, 1, 0);
+        y.pass(1);
+        y.beginWind(8, 2, true);
+        due("foresee: the next rainy hour is its second, so it turns twice", y.foresee(0, 5), 2);
+        VaneHouse z = calm(row(1, 2), row(8, 0));
+        z.addWind(0, 0, false);
+        z.addWind(4, 9, false);
+        z.move(0, 0, 0, 2);
+        z.put(0, 1);
+        due("foresee: it would be bound in hour 1", z.foresee(0, 3), 8);
+        VaneHouse w = windOf(8, 0, false);
+        w.addWind(8, 0, true);
+        w.addWind(8, 1, false);
+        w.setUp(0, 0, 1, 1, 1, 0);
+        due("foresee: it would rust in hour 1", w.foresee(0, 3), 0);
     }
 
     // Promise 19
@@ -776,8 +815,11 @@ public final class VaneHouseTest {
         refused("passes(0, 0)", z, ARGUMENT, () -> z.passes(0, 0));
         refused("passes(0, 101)", z, ARGUMENT, () -> z.passes(0, 101));
         for (int i = 0; i < 20; i++) {
-            x.pass(i == 0 ? 97 : 100);
+            x.pass(i == 0 ? 96 : 100);
         }
+        due("passes: in the last hour", x.passes(0, 1), 1999);
+        refused("passes: beyond 2000 by one", x, STATE, () -> x.passes(0, 2));
+        x.pass(1);
         refused("passes: beyond 2000", x, STATE, () -> x.passes(0, 1));
         refused("passes: too many, beyond 2000", x, ARGUMENT, () -> x.passes(0, 101));
         refused("passes: no such motion, beyond 2000", x, INDEX, () -> x.passes(1, 1));
@@ -798,8 +840,11 @@ public final class VaneHouseTest {
         refused("advise(0, 0)", x, ARGUMENT, () -> x.advise(0, 0));
         refused("advise(0, 51)", x, ARGUMENT, () -> x.advise(0, 51));
         for (int i = 0; i < 20; i++) {
-            x.pass(i == 0 ? 94 : 100);
+            x.pass(i == 0 ? 93 : 100);
         }
+        due("advise: in the last hour", x.advise(0, 1), -1);
+        refused("advise: beyond 2000 by one", x, STATE, () -> x.advise(0, 2));
+        x.pass(1);
         refused("advise: beyond 2000", x, STATE, () -> x.advise(0, 1));
         refused("advise: too many, beyond 2000", x, ARGUMENT, () -> x.advise(0, 51));
         refused("advise: no such motion, beyond 2000", x, INDEX, () -> x.advise(3, 1));
