@@ -453,11 +453,15 @@ public final class VaneHouse {
         private final int direction;
         private final int strength;
         private final boolean rains;
+        /** Where it comes from: opposite to where it turns the vanes. */
+        private final int eighth;
 
         Wind(int direction, int strength, boolean rains) {
             this.direction = direction;
             this.strength = strength;
             this.rains = rains;
+            int source = (direction + 8) % DIRECTIONS;
+            eighth = (source + 1) / 2 % 8;
         }
 
         int tell(int what) {
@@ -466,12 +470,6 @@ public final class VaneHouse {
                 case 1: return strength;
                 default: return rains ? 1 : 0;
             }
-        }
-
-        /** The eighth that it comes from, which is opposite to where it turns the vanes. */
-        int eighth() {
-            int source = (direction + 8) % DIRECTIONS;
-            return (source + 1) / 2 % 8;
         }
     }
 
@@ -520,7 +518,7 @@ public final class VaneHouse {
         }
 
         int leeOf(Wind wind) {
-            int eighth = wind.eighth();
+            int eighth = wind.eighth;
             return eighth >= 0 && eighth < higherOnes.length ? higherOnes[eighth] : 0;
         }
     }

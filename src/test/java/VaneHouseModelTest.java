@@ -40,6 +40,19 @@ public final class VaneHouseModelTest {
             random = new Random(seed);
             places = 3 + random.nextInt(10);
             wildness = random.nextInt(4) == 0 ? 4 : 40;
+            if (seed % 5 == 0) {
+                beginLate();
+            }
+        }
+
+        /** Near the last hour, which the runs would not come to otherwise. */
+        private void beginLate() {
+            for (int i = 0; i < 19; i++) {
+                house.pass(100);
+                model.pass(100);
+            }
+            house.pass(70);
+            model.pass(70);
         }
 
         int pick(int least, int most) {
