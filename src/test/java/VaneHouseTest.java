@@ -40,6 +40,7 @@ public final class VaneHouseTest {
         advise();
         discord();
         digest();
+        exampleOfReadme();
         System.out.println("VaneHouseTest: " + right + " answers right, " + wrong + " wrong");
         if (wrong != 0) {
             System.exit(1);
@@ -943,5 +944,24 @@ public final class VaneHouseTest {
             d = d * 31 + n;
         }
         same("digest: all there is, in its order", x.digest(), d);
+    }
+
+    /** README.md tells these answers. */
+    private static void exampleOfReadme() {
+        VaneHouse house = new VaneHouse();
+        due("README: beginWind", house.beginWind(4, 7, true), 1);
+        due("README: addWind", house.addWind(8, 9, false), 2);
+        due("README: setUp", house.setUp(5, 5, 3, 4, 2, 0), 0);
+        due("README: setUp", house.setUp(3, 5, 9, 2, 3, 8), 1);
+        due("README: the wind at it, 7 - 2", house.vane(0, 10), 5);
+        due("README: move", house.move(4, 1, 1, 3), 0);
+        due("README: passes, vane 1 turns by -28 / 6 to 4", house.passes(0, 10), 0);
+        due("README: put", house.put(0, 0), 1);
+        due("README: foresee, 0 by 20 / 8, by 62 / 9, by -1", house.foresee(0, 3), 7);
+        due("README: pass", house.pass(3), 1);
+        due("README: as foreseen", house.vane(0, 6), 7);
+        due("README: one vote more", house.vane(1, 4), 4);
+        due("README: coalition", house.coalition(), 4);
+        due("README: discord, (1 + 2) / 2", house.discord(), 1.5);
     }
 }
