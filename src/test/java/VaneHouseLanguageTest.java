@@ -19,7 +19,8 @@ public final class VaneHouseLanguageTest {
         "java.util.List", "java.util.NoSuchElementException");
     private static final Set<Class<?>> CONSTANTS = Set.of(int.class, long.class, boolean.class, char.class, String.class,
         int[].class, long[].class, char[].class, byte[].class);
-    // The rules leave room for some catches. The class needs none: so none can hide what the machine throws.
+    // The rules leave room for some catches, and for equals of two texts. The class needs none of these: so no catch can
+    // hide what the machine throws.
     private static final String[] RULED_OUT = {"->", "::", "\\bpackage\\b", "\\btry\\b", "\\bcatch\\b", "\\bfinally\\b",
         "\\bassert\\b", "\\bsynchronized\\b", "\\bvolatile\\b", "\\bThread\\b", "\\bRandom\\b", "\\w+Exact\\(", "\\bnative\\b",
         "\\bstatic\\s*\\{", "\\bSystem\\.(?!arraycopy\\b)", "\\bObject\\b", "\\bgetMessage\\b", "\\b(equals|hashCode|toString)\\("};
